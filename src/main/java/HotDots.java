@@ -208,7 +208,7 @@ public final class HotDots {
             wrong += wrongHere;
             wrongRows += wrongHere > 0 ? 1 : 0;
             black += trial.latestBlack;
-            hottest = Math.max(hottest, trial.latestHottest);
+            hottest = Math.max(hottest, trial.hottest());
         }
         switch (what) {
             case 0: return wrong;
@@ -581,11 +581,9 @@ public final class HotDots {
         Arrays.fill(markSteps, 0);
         trial.copyFrom(now);
         for (int i = 0; i < n; i++) {
-            int wanted = now.wantedIn(i);
+            trial.burnRow(true);
             for (int h = 0; h < trial.headCount; h++) {
-                trial.heads[h].heatUp(wanted, now.wantedIn(i + 1));
-                stepMarks(trial.heads[h], wanted);
-                trial.heads[h].settle(now.rules[COOL], now.rules[SPREAD]);
+                stepMarks(trial.heads[h], now.wantedIn(i));
             }
         }
         int fewest = UNBOUNDED, chosen = 0, wrong = 0;
@@ -602,7 +600,7 @@ public final class HotDots {
     /** WANTED is WRONG by each MARK above its HEAT, not WANTED by all others: noted where that begins and ends. */
     private void stepMarks(Head of, int wanted) {
         for (int d = 0; d < DOTS; d++) {
-            int above = Math.min(of.heat[d], MOST_MARK) + 1;
+            int above = Math.min(of.hot[d], MOST_MARK) + 1;
             if ((wanted >> d & 1) == 1) {
                 markSteps[above]++;
             } else {
@@ -731,7 +729,7 @@ public final class HotDots {
 
     private void noteLooks(int v) {
         for (int n = 0; n < LOOKS; n++) {
-            looks[v * LOOKS + n] = burnLone(n, true);
+            looks[v * LOOKS + n] = lone.burnLine(now, now.wantedIn(n), now.wantedIn(n + 1), true);
         }
     }
 
@@ -752,11 +750,11 @@ public final class HotDots {
 
     private static final class Head {
         final int[] heat = new int[DOTS];
+        /** HEATS when BLACK was told for the latest time. */
+        final int[] hot = new int[DOTS];
         int kind;
         int power;
         int wrong;
-        /** The greatest HEAT when BLACK was told for the latest time. */
-        int hottest;
 
         void begin(int newKind, int newPower) {
             kind = newKind;
@@ -804,43 +802,29 @@ public final class HotDots {
             return gets < 0 ? 0 : gets;
         }
 
-        void heatUp(int wanted, int next) {
-            for (int d = 0; d < DOTS; d++) {
-                heat[d] = Math.min(heat[d] + gain(d, wanted, next), MOST_HEAT);
-            }
-        }
-
-        int blackBy(int mark) {
-            int bits = 0;
-            hottest = 0;
-            for (int d = 0; d < DOTS; d++) {
-                if (heat[d] >= mark) {
-                    bits |= 1 << d;
-                }
-                hottest = Math.max(hottest, heat[d]);
-            }
-            return bits;
-        }
-
-        /** From each DOT to the next: what leaves one is told before that one is changed. */
-        void settle(int cool, int spread) {
-            int comes = 0;
-            for (int d = 0; d < DOTS; d++) {
-                int goes = d + 1 < DOTS ? (heat[d] - heat[d + 1]) * spread / 8 : 0;
-                heat[d] = Math.max(0, Math.min(heat[d] + comes - goes - cool, MOST_HEAT));
-                comes = goes;
-            }
-        }
-
         /** Burns a LINE by the rules of a printer: which DOTS are BLACK. */
         int burnLine(Printer by, int wanted, int next, boolean powered) {
-            if (powered) {
-                heatUp(wanted, next);
+            int black = 0;
+            for (int d = 0; d < DOTS; d++) {
+                int gets = powered ? gain(d, wanted, next) : 0;
+                hot[d] = Math.min(heat[d] + gets, MOST_HEAT);
+                if (hot[d] >= by.rules[MARK]) {
+                    black |= 1 << d;
+                }
             }
-            int black = blackBy(by.rules[MARK]);
             wrong = Math.min(wrong + Integer.bitCount(black ^ wanted), MOST_WRONG);
             settle(by.rules[COOL], by.rules[SPREAD]);
             return black;
+        }
+
+        /** What goes from a DOT to the next one comes to that one; both are told by how hot they were. */
+        void settle(int cool, int spread) {
+            int comes = 0;
+            for (int d = 0; d < DOTS; d++) {
+                int goes = d + 1 < DOTS ? (hot[d] - hot[d + 1]) * spread / 8 : 0;
+                heat[d] = Math.max(0, Math.min(hot[d] + comes - goes - cool, MOST_HEAT));
+                comes = goes;
+            }
         }
     }
 
@@ -893,8 +877,8 @@ public final class HotDots {
         int headCount;
         int lineCount;
         int row;
+        /** How many DOTS were BLACK in the latest ROW. */
         int latestBlack;
-        int latestHottest;
 
         Printer() {
             for (int h = 0; h < MOST_HEADS; h++) {
@@ -942,14 +926,23 @@ public final class HotDots {
         int burnLine(int wanted, int next, boolean powered) {
             int wrong = 0;
             latestBlack = 0;
-            latestHottest = 0;
             for (int h = 0; h < headCount; h++) {
                 int black = heads[h].burnLine(this, wanted, next, powered);
-                latestHottest = Math.max(latestHottest, heads[h].hottest);
                 latestBlack += Integer.bitCount(black);
                 wrong += Integer.bitCount(black ^ wanted);
             }
             return wrong;
+        }
+
+        /** The greatest HEAT when BLACK was told in the latest ROW. */
+        int hottest() {
+            int most = 0;
+            for (int h = 0; h < headCount; h++) {
+                for (int d = 0; d < DOTS; d++) {
+                    most = Math.max(most, heads[h].hot[d]);
+                }
+            }
+            return most;
         }
 
         void loseHeat() {
