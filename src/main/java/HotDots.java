@@ -313,7 +313,7 @@ public final class HotDots {
         if (badOdds(v, n, what) || noHead(h)) {
             return BAD;
         }
-        long all = tenths(10, n);
+        long all = raised(10, n);
         long lucky = 0;
         for (int without = 0; without < 1 << n; without++) {
             long weight = weightOf(without, v, n);
@@ -328,7 +328,7 @@ public final class HotDots {
         if (badOdds(v, n, what)) {
             return BAD;
         }
-        long all = tenths(10, n);
+        long all = raised(10, n);
         long sum = 0;
         for (int without = 0; without < 1 << n; without++) {
             long weight = weightOf(without, v, n);
@@ -650,7 +650,7 @@ public final class HotDots {
 
     // ---- odds: bit i of 'without' says that ROW i is without power
 
-    private static long tenths(int v, int times) {
+    private static long raised(int v, int times) {
         long product = 1;
         for (int i = 0; i < times; i++) {
             product *= v;
@@ -660,7 +660,7 @@ public final class HotDots {
 
     private static long weightOf(int without, int v, int n) {
         int off = Integer.bitCount(without);
-        return tenths(v, off) * tenths(10 - v, n - off);
+        return raised(v, off) * raised(10 - v, n - off);
     }
 
     private boolean loneIsRight(int h, int n, int without) {

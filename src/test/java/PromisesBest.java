@@ -131,6 +131,9 @@ public final class PromisesBest {
         DUE.is("rest(1, 0), too late", x.rest(1, 0), NONE);
         DUE.is("rest(4, 0), two on", x.rest(4, 0), 1);
         DUE.is("rest(4, 1), two on", x.rest(4, 1), 1);
+        // All HEADS are cold then, each DOT to the last degree: by 1 more there would be a ghost.
+        x = Due.of("plain 20; plain 20; mark 1; cool 0; lines 255 0;");
+        DUE.is("rest(2, 1), all of them", x.rest(2, 1), 0);
         // Two lines do as well as one another: behind either of them DOT 0 is cold for line 2.
         x = Due.of("plain 20; cool 0; lines 1 0 0;");
         x.warm(0, 7, 50);
@@ -160,6 +163,8 @@ public final class PromisesBest {
         // An early one gets nothing ahead of its time without power.
         x = Due.of("early 30; mark 10; lines 0 1 0;");
         fraction("luck early", x.luck(2, 0, 1, 0), x.luck(2, 0, 1, 1), 1, 5);
+        x = Due.of("plain 30; mark 1; lines 0;");
+        fraction("luck, nothing WANTED", x.luck(2, 0, 1, 0), x.luck(2, 0, 1, 1), 1, 1);
         DUE.is("rule(2) stays", x.rule(2), 0);
         DUE.is("head(0, 3) stays", x.head(0, 3), 0);
         int[][] bad = {{-1, 0, 0, 0}, {11, 0, 0, 0}, {0, -1, 0, 0}, {0, 1, 0, 0}, {0, 0, -1, 0}, {0, 0, 7, 0},

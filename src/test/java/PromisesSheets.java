@@ -70,6 +70,15 @@ public final class PromisesSheets {
         DUE.is("powers(0) here", x.powers(0), (1 << 31) - (1 << 20));
         x.back(0);
         DUE.is("powers(0) as it was seen", x.powers(0), 0);
+        x = Due.of("plain 20; plain 20; lines 1;");
+        x.see(1, 1, 1);
+        x.keep(0);
+        x.forget(0);
+        x.see(0, 0, 1);
+        x.back(0);
+        // 20 by 12 and 9 more, as seen of HEAD 1 in ROW 1.
+        DUE.is("powers(1), of whom and when it was seen", x.powers(1), Integer.MAX_VALUE - ((1 << 12) - 1));
+        DUE.is("powers(0), of whom it was not seen", x.powers(0), Integer.MAX_VALUE);
         x.warm(0, 0, 77);
         x.back(0);
         DUE.is("dot(0, 0, 0), the image has its own", x.dot(0, 0, 0), 0);

@@ -96,7 +96,14 @@ public final class PromisesText {
         DUE.is("count(3)", x.count(3), 3);
         DUE.is("back(0)", x.back(0), STATE);
         DUE.is("back(1)", x.back(1), STATE);
+        // What was tried BY ROWS leaves nothing behind in a HEAD that is told anew.
+        x = Due.of("plain 30; mark 10; lines 1 2;");
+        x.burn(3);
+        x.see(0, 0, 1);
+        x.runs(9, 0);
         DUE.is("plain again", Due.take(x, "plain 5;"), 1);
+        DUE.is("count(0), told anew", x.count(0), 0);
+        DUE.is("rule(2), told anew", x.rule(2), 0);
         DUE.is("head(0, 2)", x.head(0, 2), 0);
         DUE.is("head(0, 3)", x.head(0, 3), 0);
     }
@@ -147,6 +154,8 @@ public final class PromisesText {
         refused("{", 1, 0);
         refused("`", 1, 0);
         refused("mark /", 1, 5);
+        refused("zz", 2, 0);
+        refused("xlain 1;", 2, 0);
         refused("mark :", 1, 5);
         refused("plan 1;", 2, 0);
         refused("plains 1;", 2, 0);
