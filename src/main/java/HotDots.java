@@ -822,7 +822,8 @@ public final class HotDots {
             int comes = 0;
             for (int d = 0; d < DOTS; d++) {
                 int goes = d + 1 < DOTS ? (hot[d] - hot[d + 1]) * spread / 8 : 0;
-                heat[d] = Math.max(0, Math.min(hot[d] + comes - goes - cool, MOST_HEAT));
+                int left = hot[d] + comes - goes - cool;
+                heat[d] = left < 0 ? 0 : left > MOST_HEAT ? MOST_HEAT : left;
                 comes = goes;
             }
         }
