@@ -1,4 +1,6 @@
 import java.io.IOException;
+import java.lang.reflect.Field;
+import java.lang.reflect.Modifier;
 import java.nio.file.Files;
 import java.nio.file.Path;
 import java.util.List;
@@ -13,7 +15,7 @@ public final class Language {
         "\\bArrays\\.(?!(fill|copyOf|copyOfRange)\\()", "\\bMath\\.(?!(max|min|abs|floorDiv|floorMod)\\()",
         "\\bInteger\\.(?!bitCount\\()", "\\bstatic\\s*\\{", "\\bprotected\\b",
         "\\b(Object|Map|Set|Random|Thread|Collections|Optional|Stream)\\b"};
-    private static final int MOST_LINES = 60, MOST_PARAMETERS = 7, MOST_CLASSES = 12;
+    private static final int MOST_LINES = 60, MOST_PARAMETERS = 7, MOST_CLASSES = 12, MOST_FIELDS = 20;
     private static final Due DUE = new Due("Language");
 
     private static String withoutWords(String source) {
@@ -44,6 +46,33 @@ public final class Language {
         DUE.is("methods were looked at", seen >= 40 ? 1 : 0, 1);
     }
 
+    /** All calls of a run live in one room, so objects are made by constructors and for fields alone. */
+    private static void making(String code) {
+        String constructorEnd = "";
+        int made = 0;
+        for (String line : code.split("\n")) {
+            if (line.matches("( {4}public| {7}) [A-Z]\\w*\\(.*\\) \\{")) {
+                constructorEnd = line.startsWith("    public") ? "    }" : "        }";
+            } else if (line.equals(constructorEnd)) {
+                constructorEnd = "";
+            } else if (line.matches(".*\\bnew\\b.*")) {
+                made++;
+                boolean field = line.matches("( {4}private| {7}) final .* = new .*;");
+                DUE.is("made outside of a constructor:" + line, field || !constructorEnd.isEmpty() ? 1 : 0, 1);
+            }
+            DUE.is("copies are made:" + line, found("\\b(clone|copyOf|copyOfRange|toCharArray|substring)\\(", line), 0);
+        }
+        DUE.is("places that make objects were looked at", made >= 10 ? 1 : 0, 1);
+    }
+
+    private static void fields(Class<?> of) {
+        int own = 0;
+        for (Field f : of.getDeclaredFields()) {
+            own += Modifier.isStatic(f.getModifiers()) ? 0 : 1;
+        }
+        DUE.is("fields of " + of.getName(), Math.max(own, MOST_FIELDS), MOST_FIELDS);
+    }
+
     public static void main(String[] args) throws IOException {
         String source = Files.readString(Path.of(args.length > 0 ? args[0] : "src/main/java/HotDots.java"));
         String code = withoutWords(source);
@@ -61,6 +90,11 @@ public final class Language {
         DUE.is("classes", Math.max(classes, MOST_CLASSES), MOST_CLASSES);
         DUE.is("static fields that are not final", found("\\bstatic (?!final )[\\w\\[\\]]+ \\w+\\s*[=;]", code), 0);
         methods(code);
+        making(code);
+        fields(HotDots.class);
+        for (Class<?> inside : HotDots.class.getDeclaredClasses()) {
+            fields(inside);
+        }
         DUE.close();
     }
 }
